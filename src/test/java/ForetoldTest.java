@@ -134,6 +134,11 @@ public final class ForetoldTest {
         due.is("side 1 can't help it", x.pairs(1, 1, -1), 2);
         due.is("so its pairs are the first", x.pairs(1, 1, 0), 0);
         due.is("and unlike", x.pairs(1, 1, 1), 1);
+        // The same seen from over there: 2 alone can hit, and should know 1.
+        x = Due.told("buttons 3 0;sniper 2;buttons 0 6;buttons 1 1;mender 0 2;mender 1 2;buttons 2 6;mender 2 0");
+        due.is("left by side 1", x.pairs(1, 1, -1), 3);
+        due.is("2 should know 1", x.pairs(1, 1, 0), 1);
+        due.is("3 the other", x.pairs(1, 1, 1), 0);
         due.is("pairs(2, 0, 9)", x.pairs(2, 0, 9), OppositeThreads.UNKNOWN);
         due.is("pairs(-1, 1, 0)", x.pairs(-1, 1, 0), OppositeThreads.UNKNOWN);
         due.is("pairs(0, 0, 0)", x.pairs(0, 0, 0), OppositeThreads.OUTSIDE);

@@ -25,9 +25,10 @@ public final class SheetTest {
         due.is("sheet(0, 0, -1)", x.sheet(0, 0, -1), OppositeThreads.SIZE);
         due.is("sheet(0, 0, MIN)", x.sheet(0, 0, MIN), OppositeThreads.SIZE);
         due.is("places", x.count(7), 10);
+        x.set(0, 0, 0, 76);
         x.set(0, 0, 3, 77);
         due.is("a new one", x.sheet(0, 0, 5), 5);
-        due.is("of noughts", x.get(0, 0, 3), 50000);
+        has("of noughts", x, 0, 0, 0, 0, 0, 0, 0);
         due.is("of the other sort", x.sheet(0, 1, 5), 5);
         due.is("is of that", x.get(0, 1, 3), 50000);
         due.is("an empty one is not missing", x.sum(1), 500000);

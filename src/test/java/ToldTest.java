@@ -8,6 +8,7 @@ public final class ToldTest {
         faultsOfWords();
         faultsOfNumbers();
         faultsOfClauses();
+        erasedLettersTellNothing();
         armyDoesClauses();
         armyBeginsAnew();
         armyRefused();
@@ -74,6 +75,8 @@ public final class ToldTest {
         faultAt("plain 0;sailor 1;sniper 2;corporal 3;drummer 0", OppositeThreads.NONE);
         faultAt("armyy 2", 0);
         faultAt("arm 2", 0);
+        faultAt("brmy 2", 0);
+        faultAt("armyz 2", 0);
         faultAt("Army 2", 0);
         faultAt("aRmy 2", 0);
         faultAt("army", 4);
@@ -95,6 +98,7 @@ public final class ToldTest {
         faultAt("army 04", OppositeThreads.NONE);
         faultAt("army 004", 5);
         faultAt("army 11", 5);
+        faultAt("army 19", 5);
         faultAt("army 1 1", 7);
         faultAt("plain 3", OppositeThreads.NONE);
         faultAt("plain 4", 6);
@@ -144,6 +148,22 @@ public final class ToldTest {
         faultAt(times("army 2", 24) + " x", 24 * 7);
     }
 
+    private static void erasedLettersTellNothing() {
+        OppositeThreads x = new OppositeThreads();
+        Due.type(x, "plain 2");
+        Due.type(x, "plain ");
+        due.is("a number that was erased", x.fault(), 6);
+        Due.type(x, "plain 12");
+        Due.type(x, "plain 1");
+        due.is("a digit that was erased", x.fault(), OppositeThreads.NONE);
+        Due.type(x, "plain 1;");
+        Due.type(x, "plain 1");
+        due.is("a clause's end that was erased", x.army(), 1);
+        Due.type(x, "plain 1");
+        Due.type(x, "plai");
+        due.is("a word's end that was erased", x.fault(), 0);
+    }
+
     private static void armyDoesClauses() {
         OppositeThreads x = new OppositeThreads();
         Due.type(x, "sailor 0;sniper 1;corporal 2;drummer 3;buttons 0 0;buttons 3 6;mender 0 3;plain 1");
@@ -176,6 +196,9 @@ public final class ToldTest {
         Due.type(x, times("army 1", 24));
         due.is("24 clauses", x.army(), 24);
         due.is("one man a side", x.count(0), 1);
+        due.is("who is there no more knows nobody", x.man(0, 5), 1 << 1);
+        due.is("and has no buttons", x.count(3) + x.count(4), 6);
+        due.is("and is not in the field", x.count(2), 3);
     }
 
     private static void armyBeginsAnew() {
@@ -185,7 +208,9 @@ public final class ToldTest {
         x.keep(0);
         x.keep(1);
         x.seen(0, 1, 1);
+        x.sheet(0, 0, 2);
         x.sheet(1, 1, 4);
+        x.sheet(2, 1, 0);
         due.is("hit", x.man(0, 1) < 5 ? 1 : 0, 1);
         Due.type(x, "sailor 5");
         due.is("army", x.army(), 1);
@@ -197,7 +222,9 @@ public final class ToldTest {
         due.is("undo", x.undo(), OppositeThreads.NOT);
         due.is("nothing kept", x.back(0), OppositeThreads.NOT);
         due.is("nothing kept, 1", x.back(1), OppositeThreads.NOT);
-        due.is("sheets missing", x.sum(1), OppositeThreads.NULL);
+        for (int sheet = 0; sheet < 3; sheet++) {
+            due.is("sheet " + sheet + " is missing", x.sum(sheet), OppositeThreads.NULL);
+        }
         due.is("places", x.count(7), 0);
     }
 
@@ -263,6 +290,10 @@ public final class ToldTest {
         due.is("of the fullest the least", x.man(0, 3), 3);
         x = Due.told("army 3;sailor 0;mender 0 5");
         due.is("sailor takes the greatest that is open", x.man(0, 3), 4);
+        x = Due.told("army 2;sailor 0;mender 0 3");
+        due.is("sailor takes the first where he alone is open", x.man(0, 3), 2);
+        x = Due.told("army 2;sailor 0;mender 0 3;buttons 2 0");
+        due.is("sailor: none is open", x.man(0, 3), OppositeThreads.NONE);
         x = Due.told("army 3;sailor 5;mender 5 2;sniper 4;mender 4 0");
         due.is("sailor of side 1", x.man(5, 3), 1);
         due.is("sniper of side 1", x.man(4, 3), 1);
