@@ -29,6 +29,8 @@ public final class RulesTest {
         face();
         constants();
         insideClasses();
+        privateNames();
+        methodsAreShort();
         words();
         due.end();
     }
@@ -80,7 +82,51 @@ public final class RulesTest {
             for (Field f : c.getDeclaredFields()) {
                 due.holds(f + " is final if static", !Modifier.isStatic(f.getModifiers()) || Modifier.isFinal(f.getModifiers()));
             }
+            due.holds(c + " has at most twenty fields", fieldsOf(c) <= 20);
         }
+        due.holds("the class itself too", fieldsOf(OppositeThreads.class) <= 20);
+    }
+
+    private static int fieldsOf(Class<?> c) {
+        int fields = 0;
+        for (Field f : c.getDeclaredFields()) {
+            fields += Modifier.isStatic(f.getModifiers()) ? 0 : 1;
+        }
+        return fields;
+    }
+
+    private static void privateNames() {
+        Set<String> open = new TreeSet<>();
+        for (Method m : OppositeThreads.class.getDeclaredMethods()) {
+            if (isSeen(m)) {
+                open.add(m.getName());
+            }
+        }
+        for (Method m : OppositeThreads.class.getDeclaredMethods()) {
+            due.holds(m + " has a name of its own", isSeen(m) || !open.contains(m.getName()));
+        }
+        for (Field f : OppositeThreads.class.getDeclaredFields()) {
+            due.holds(f + " is final", Modifier.isFinal(f.getModifiers()));
+        }
+    }
+
+    /** A method of a class here begins four spaces in, or eight, and ends with a brace that is as far in. */
+    private static void methodsAreShort() throws Exception {
+        String[] lines = Files.readString(Path.of("src/main/java/OppositeThreads.java"), StandardCharsets.UTF_8).split("\n");
+        int methods = 0;
+        for (int i = 0; i < lines.length; i++) {
+            Matcher m = Pattern.compile("^( {4}| {8})[^ /*].*\\) \\{$").matcher(lines[i]);
+            // Within a method that stands four spaces in, eight spaces begin a statement.
+            if (m.matches() && !lines[i].trim().matches("(if|for|while|switch|\\}).*")) {
+                int end = i;
+                while (end < lines.length && !lines[end].equals(m.group(1) + "}")) {
+                    end++;
+                }
+                methods++;
+                due.holds("at most sixty lines: " + lines[i].trim(), end - i <= 60);
+            }
+        }
+        due.holds("methods were found", methods > 60);
     }
 
     private static void words() throws Exception {
