@@ -13,6 +13,7 @@ public final class TextEdgesTest {
         menderOfOtherSide();
         lettersOfText();
         textOfTwoHundred();
+        erasedText();
         everyLetterBehindClause();
         everyLetterBehindWord();
         everyLetterBetweenDigits();
@@ -154,10 +155,33 @@ public final class TextEdgesTest {
         due.is("a letter again", x.write('a'), 1);
         faultAt(times(" ", 199) + "x", 199);
         faultAt(times(" ", 200), 200);
+        faultAt("army" + times(" ", 196), 200);
+        faultAt("plain 0;" + times(" ", 185) + "buttons", 200);
+        faultAt("mender 0" + times(" ", 192), 200);
         faultAt(times("a", 200), 0);
         faultAt("plain " + times("0", 194), 6);
         faultAt("plain 0" + times(" ", 192) + ";", 200);
         faultAt("plain 0" + times(" ", 193), NONE);
+    }
+
+    // "THE TEXT is empty: how many letters it had": what was erased, or done, tells nothing
+    private static void erasedText() {
+        String[] behind = {"army 4", "plain 3", "buttons 3 6", "mender 3 1"};
+        for (String text : behind) {
+            for (int length = 0; length < text.length(); length++) {
+                OppositeThreads x = new OppositeThreads();
+                Due.type(x, text);
+                due.is("erase", x.erase(), text.length());
+                due.is("erase again", x.erase(), 0);
+                Due.type(x, text.substring(0, length));
+                int word = text.indexOf(' ');
+                due.is("fault of '" + text.substring(0, length) + "'", x.fault(), length < word ? 0 : length);
+                Due.type(x, text);
+                x.army();
+                Due.type(x, text.substring(0, length));
+                due.is("behind army() too", x.fault(), length < word ? 0 : length);
+            }
+        }
     }
 
     // "a TOKEN (a row of small letters, a row of digits, any other letter)": behind a number each letter is one of these
