@@ -31,6 +31,8 @@ public final class RulesTest {
         insideClasses();
         privateNames();
         methodsAreShort();
+        objectsAreMadeAtFirst();
+        libraryIsListed();
         words();
         due.end();
     }
@@ -112,7 +114,7 @@ public final class RulesTest {
 
     /** A method of a class here begins four spaces in, or eight, and ends with a brace that is as far in. */
     private static void methodsAreShort() throws Exception {
-        String[] lines = Files.readString(Path.of("src/main/java/OppositeThreads.java"), StandardCharsets.UTF_8).split("\n");
+        String[] lines = source().split("\n");
         int methods = 0;
         for (int i = 0; i < lines.length; i++) {
             Matcher m = Pattern.compile("^( {4}| {8})[^ /*].*\\) \\{$").matcher(lines[i]);
@@ -129,9 +131,50 @@ public final class RulesTest {
         due.holds("methods were found", methods > 60);
     }
 
+    private static String source() throws Exception {
+        return Files.readString(Path.of("src/main/java/OppositeThreads.java"), StandardCharsets.UTF_8);
+    }
+
+    private static String codeOf(String source) {
+        return source.replaceAll("(?s)/\\*.*?\\*/", "").replaceAll("//[^\n]*", "");
+    }
+
+    /** The room of a run is counted: rows and objects are made by constructors, and used again by every call. */
+    private static void objectsAreMadeAtFirst() throws Exception {
+        Pattern header = Pattern.compile("^ {4,8}(?:[\\w\\[\\]]+ )*(\\w+)\\([^;]*\\) \\{$");
+        String method = "";
+        int made = 0;
+        for (String line : codeOf(source()).split("\n")) {
+            Matcher m = header.matcher(line);
+            if (m.matches()) {
+                method = m.group(1);
+            }
+            if (line.matches(".*\\bnew\\b.*")) {
+                made++;
+                due.holds("made by a constructor: " + line.trim(), Character.isUpperCase(method.charAt(0)));
+            }
+        }
+        due.holds("objects were found", made > 10);
+    }
+
+    private static void libraryIsListed() throws Exception {
+        Set<String> listed = new TreeSet<>(Arrays.asList("Math.max", "Math.min", "Integer.bitCount", "System.arraycopy"));
+        Set<String> own = new TreeSet<>();
+        for (Class<?> c : OppositeThreads.class.getDeclaredClasses()) {
+            own.add(c.getSimpleName());
+        }
+        Matcher m = Pattern.compile("\\b([A-Z][A-Za-z]*[a-z])\\.(\\w+)\\(").matcher(codeOf(source()));
+        int found = 0;
+        while (m.find()) {
+            found++;
+            due.holds("the library has " + m.group(), own.contains(m.group(1)) || listed.contains(m.group(1) + "." + m.group(2)));
+        }
+        due.holds("calls were found", found > 10);
+    }
+
     private static void words() throws Exception {
-        String source = Files.readString(Path.of("src/main/java/OppositeThreads.java"), StandardCharsets.UTF_8);
-        String code = source.replaceAll("(?s)/\\*.*?\\*/", "").replaceAll("//[^\n]*", "");
+        String source = source();
+        String code = codeOf(source);
         Pattern banned = Pattern.compile("\\b(throw|throws|try|catch|synchronized|assert|import|package|double|float|native|volatile"
             + "|transient|Random|Thread|File|Object|hashCode|toString|\\w+Exact)\\b|->|::|@");
         Matcher m = banned.matcher(code);
